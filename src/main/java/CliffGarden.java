@@ -457,7 +457,7 @@ public final class CliffGarden {
     private int dropCrop(int from, boolean mayBeCaught) {
         int row = falls.open(nets, from, brow.today);
         nets.clearCrop(from);
-        int lies = mayBeCaught ? catchingLevel(row, from) : LEVELS;
+        int lies = mayBeCaught ? court.catchingLevel(row) : LEVELS;
         falls.lies[row] = lies;
         if (lies < LEVELS) {
             nets.caught[from - from % LEVELS + lies] += falls.weight[row];
@@ -469,16 +469,6 @@ public final class CliffGarden {
         }
         falls.close();
         return lies;
-    }
-
-    private int catchingLevel(int row, int from) {
-        int end = Nets.endOfColumn(from);
-        for (int c = from + 1; c < end; c++) {
-            if (nets.hangs(c) && court.catches(row, c)) {
-                return c % LEVELS;
-            }
-        }
-        return LEVELS;
     }
 
     private void landInKitchen(int row, int from) {
@@ -855,11 +845,21 @@ public final class CliffGarden {
             return law.answer('a', 999, seen);
         }
 
-        private boolean catches(int row, int at) {
-            seeCell(at);
-            seeFallen(row);
-            seen[M] = at - falls.from[row];
-            return law.answer('c', 1, seen) > 0;
+        /** The LEVEL of the first CELL below that catches it; LEVELS if none does. */
+        private int catchingLevel(int row) {
+            int from = falls.from[row];
+            int end = Nets.endOfColumn(from);
+            for (int c = from + 1; c < end; c++) {
+                if (nets.hangs(c)) {
+                    seeCell(c);
+                    seeFallen(row);
+                    seen[M] = c - from;
+                    if (law.answer('c', 1, seen) > 0) {
+                        return c % LEVELS;
+                    }
+                }
+            }
+            return LEVELS;
         }
 
         private int ownerOf(int row) {
