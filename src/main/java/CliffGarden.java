@@ -1002,7 +1002,6 @@ public final class CliffGarden {
                 trial[told[place]] = drops;
                 tryValve(place + 1, left - drops);
             }
-            trial[told[place]] = 0;
         }
 
         private void weighTrial() {

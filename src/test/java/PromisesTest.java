@@ -681,6 +681,30 @@ public final class PromisesTest {
         due("his it is now", g.right(1, 255), -1);
         due("and on", g.right(1, 8), 200);
         due("to", g.food(3), 200);
+        lay(g, "q1(b=0)");
+        due("to the first person", g.right(1, 1), 200);
+        due("to", g.food(0), 200);
+        claimsOfWhatIsGone();
+    }
+
+    private static void claimsOfWhatIsGone() {
+        promise = 20;
+        CliffGarden g = column(0, 1, 9999);
+        g.knot(0, 0, 50);
+        g.plant(0, 0, 0, 60);
+        g.pollinate(0, 0);
+        lay(g, "op*5(r=1);q1001(b=4);q1000(b=2);qp(b=6)");
+        g.go();
+        due("pollinated as it fell", g.food(5), 60);
+        due("pollinated as it fell", g.claimed(0, 64), 6);
+        due("1000 points at most", g.claimed(0, 16 + 4), 2);
+        due("one person", g.claimed(0, 1), -2);
+        lay(g, "q2(b=1&s>0);q1(b=2&s=0&l=0&x=0)");
+        due("its soil is lost", g.claimed(0, 255), 2);
+        g.hang(0, 0, 3, 1, 0, 0);
+        due("hung anew", g.claimed(0, 255), 1);
+        lay(g, "q1(b=3&p=1);qp*2(b=3);q1(b=2)");
+        due("pollinated is 1", g.claimed(0, 8 + 4), 2);
     }
 
     private static void foodAndKitchens() {
@@ -747,10 +771,15 @@ public final class PromisesTest {
         due("no place", g.work(5, 0, 3, 2), -3);
         due("no place", g.work(5, 0, 3, -2), -3);
         due("no weight", g.work(100, 0, 3, -1), -3);
+        due("no weight", g.work(0, 0, 3, -1), -3);
+        due("the heaviest", g.work(99, 0, 1, -1), 1);
+        due("the heaviest, lower", g.work(99, 0, 2, -1), -2);
+        due("the lightest", g.work(1, 0, 32, -1), 6);
         due("no column", g.work(5, -1, 3, -1), -3);
         g.rope(0, 9, 1);
         due("not at some", g.work(5, 0, 3, -1), -2);
         due("not at some", g.work(5, 0, 3, 0), -2);
+        due("not at the first", g.work(10, 0, bit(0, 0) | bit(1, 0), 0), -2);
         due("no place ahead of that", g.work(5, 0, 3, 2), -3);
         due("it may begin anywhere", g.work(50, 0, bit(1, 0), -1), 3);
     }
@@ -824,6 +853,7 @@ public final class PromisesTest {
         due("has a crop", g.planted(bit(3, 1), -1), -3);
         due("does not hang", g.planted(bit(3, 2), -1), -3);
         due("none", g.planted(0, -1), -3);
+        due("the first does not hang", g.planted(1 | two, -1), -3);
         due("no cell", g.planted(1L << 50, -1), -3);
         due("no place", g.planted(two, 2), -3);
         due("no place", g.planted(two, -2), -3);
@@ -874,11 +904,15 @@ public final class PromisesTest {
         due("0 drops", g.drought(0, 1, 0), 0);
         due("too many", g.drought(37, 1, -1), -2);
         due("below 0", g.drought(-1, 1, -1), -2);
+        g.kind(1, 20, 50, 1);
+        lay(g, "gw(1=1)");
+        due("9 at most in one", g.drought(36, 0b00010, -1), 9);
+        due("9 at most in one", g.drought(36, 0b00010, 0), 9);
         due("no column", g.drought(1, 0, -1), -2);
         due("no column", g.drought(1, 256, -1), -2);
         due("no column", g.drought(1, -1, -1), -2);
         due("five", g.drought(1, 31, -1), -2);
-        due("four", g.drought(1, 15, 3), 0);
+        due("four: the least row", g.drought(1, 15, 3), 1);
         due("no place", g.drought(1, 15, 4), -2);
         due("no place", g.drought(1, 15, -2), -2);
     }
