@@ -116,6 +116,11 @@ final class CellSentences {
             Book.due("2 at the right end", streams(7, 2, 5), 500);
             Book.due("3 at the right end", streams(7, 3, 7), 40300);
             Book.due("0 at the ends", streams(0, 0, 7) + streams(7, 0, 7), 1400);
+            for (int c = 1; c <= 6; c++) {
+                Book.due("1 from column " + c, streams(c, 1, 7), 70000);
+                Book.due("2 from column " + c, streams(c, 2, 7), 7);
+                Book.due("3 from column " + c, streams(c, 3, 7), 40003);
+            }
             for (int way : new int[] {-1, 0, 3, 4, Gardens.MIN, Gardens.MAX}) {
                 boolean can = way >= 0 && way <= 3;
                 CliffGarden g = new CliffGarden();
@@ -308,7 +313,8 @@ final class CellSentences {
     }
 
     private static void hang() {
-        Book.promise(2, "A CELL is HUNG (with SOIL, a KNOT, a FARMER, a WAY; no CROP, nothing CAUGHT, KEPT): true;", () -> {
+        Book.promise(2, "A CELL is HUNG (with SOIL, a KNOT, a FARMER, a WAY;"
+                + " no CROP, nothing CAUGHT, KEPT): true;", () -> {
             CliffGarden g = Gardens.column(4, 3, 9999);
             Gardens.lay(g, "c1(l=2)");
             g.valve(4, 9);
@@ -581,6 +587,11 @@ final class CellSentences {
                 Book.due("cells that hang", g.count(0), 6);
                 Book.due("crops", g.count(6), 1);
                 Book.due("falls", g.count(2), 2);
+                for (int n = 0; n < 48; n++) {
+                    g = Gardens.column(n / 6, 6, 9999);
+                    g.plant(n / 6, n % 6, 0, 0);
+                    Book.due("the crop of cell " + n, g.count(6), 1);
+                }
             });
         Book.promise(33, "10 + c VALVE of COLUMN c, 20 + 3 k NEED of KIND k, 21 + 3 k RIPE, 22 + 3 k WORTH.", () -> {
             CliffGarden g = new CliffGarden();

@@ -108,8 +108,8 @@ final class DaySentences {
     }
 
     private static void load() {
-        Book.terms("LOAD of a CELL's KNOT: of it and all CELLS that HANG below it in its COLUMN: ten times SOIL, WEIGHT,"
-                + " CAUGHT, KEPT, together.", () -> {
+        Book.terms("LOAD of a CELL's KNOT: of it and all CELLS that HANG below it in its COLUMN: ten times SOIL,"
+                + " WEIGHT, CAUGHT, KEPT, together.", () -> {
             CliffGarden g = new CliffGarden();
             Gardens.lay(g, "c1(l=5)");
             for (int l = 0; l < 6; l++) {
@@ -184,29 +184,30 @@ final class DaySentences {
             Book.due("one with a crop catches, too", g.fall(5, 1), 2);
             Book.due("its crop stays", g.cell(5, 2, 6), 10);
         });
-        Book.terms("else it comes into the KITCHEN: FOOD more by its WEIGHT times the KIND's WORTH for the PERSON by o;",
-            () -> {
-                CliffGarden g = Gardens.column(5, 1, 9999);
-                Gardens.lay(g, "o3(y>5);o4(y=0)");
-                int[][] kindWeightFood = {{5, 200, 19800}, {0, 200, 0}, {5, 6, 594}};
-                g.kind(5, 0, 1, 99);
-                g.kind(0, 0, 1, 0);
-                int food = 0;
-                for (int[] f : kindWeightFood) {
-                    g.plant(5, 0, f[0], f[1]);
-                    Book.due("fall", g.fall(5, 0), 6);
-                    food += f[2];
-                    Book.due("food", g.food(3), food);
-                }
-                g.plant(5, 0, 5, 5);
-                g.fall(5, 0);
-                Book.due("no clause: person 0", g.food(0), 495);
-                g.plant(5, 0, 5, 0);
-                g.fall(5, 0);
-                Book.due("weight 0", g.food(4), 0);
-                Book.due("whose, though", g.fallIs(4, 5), 4);
-            });
-        Book.terms("a HOLE, if WEIGHT times LEVELS fallen (to the KITCHEN: 6 less its LEVEL) is above the ROOF.", () -> {
+        Book.terms("else it comes into the KITCHEN: FOOD more by its WEIGHT times the KIND's WORTH"
+                + " for the PERSON by o;", () -> {
+            CliffGarden g = Gardens.column(5, 1, 9999);
+            Gardens.lay(g, "o3(y>5);o4(y=0)");
+            int[][] kindWeightFood = {{5, 200, 19800}, {0, 200, 0}, {5, 6, 594}};
+            g.kind(5, 0, 1, 99);
+            g.kind(0, 0, 1, 0);
+            int food = 0;
+            for (int[] f : kindWeightFood) {
+                g.plant(5, 0, f[0], f[1]);
+                Book.due("fall", g.fall(5, 0), 6);
+                food += f[2];
+                Book.due("food", g.food(3), food);
+            }
+            g.plant(5, 0, 5, 5);
+            g.fall(5, 0);
+            Book.due("no clause: person 0", g.food(0), 495);
+            g.plant(5, 0, 5, 0);
+            g.fall(5, 0);
+            Book.due("weight 0", g.food(4), 0);
+            Book.due("whose, though", g.fallIs(4, 5), 4);
+        });
+        Book.terms("a HOLE, if WEIGHT times LEVELS fallen (to the KITCHEN: 6 less its LEVEL)"
+                + " is above the ROOF.", () -> {
             for (int from = 0; from < 6; from++) {
                 CliffGarden g = Gardens.column(5, 6, 9999);
                 g.kitchen(5, 0, 10 * (6 - from));
@@ -417,7 +418,8 @@ final class DaySentences {
     }
 
     private static void torn() {
-        Book.terms("TORN: which CELLS would go if one did (that one first, then as KNOTS GO), nothing being done.", () -> {
+        Book.terms("TORN: which CELLS would go if one did (that one first, then as KNOTS GO),"
+                + " nothing being done.", () -> {
             CliffGarden g = new CliffGarden();
             for (int c = 1; c <= 4; c++) {
                 for (int l = 0; l < 3; l++) {
@@ -556,7 +558,8 @@ final class DaySentences {
     }
 
     private static void ageing() {
-        Book.terms("then each KNOT of CELLS that HANG is less by a (all as ahead of it; not below 0); then KNOTS GO;", () -> {
+        Book.terms("then each KNOT of CELLS that HANG is less by a (all as ahead of it; not below 0);"
+                + " then KNOTS GO;", () -> {
             int[][] knotAndAge = {{10, 3}, {10, 10}, {10, 11}, {0, 5}, {9999, 999}, {998, 999}};
             for (int[] k : knotAndAge) {
                 CliffGarden g = Gardens.column(3, 2, k[0]);
@@ -566,6 +569,7 @@ final class DaySentences {
                 Book.due("aged", g.cell(3, 1, 1), Math.max(0, k[0] - k[1]));
                 Book.due("it bears nothing", g.count(0), 2);
             }
+            everyKnotAges();
             CliffGarden g = Gardens.column(3, 1, 107);
             Gardens.lay(g, "an/10+y(1=1)");
             g.plant(3, 0, 0, 5);
@@ -607,6 +611,18 @@ final class DaySentences {
             g.day();
             Book.due("not on day 3", g.cell(3, 0, 1), 9998);
         });
+    }
+
+    private static void everyKnotAges() {
+        CliffGarden g = new CliffGarden();
+        for (int c = 0; c < 8; c++) {
+            Gardens.hangColumn(g, c, 6, 100);
+        }
+        Gardens.lay(g, "a6*x+l+1(1=1)");
+        g.day();
+        for (int n = 0; n < 48; n++) {
+            Book.due("knot " + n, g.cell(n / 6, n % 6, 1), 99 - n);
+        }
     }
 
     private static void promisesOfWaterAndFall() {

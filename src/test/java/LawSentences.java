@@ -99,7 +99,8 @@ final class LawSentences {
     }
 
     private static void bounds() {
-        Book.terms("of the first CLAUSE of a letter whose C holds the E (none: 0; beyond its bounds the bound):", () -> {
+        Book.terms("of the first CLAUSE of a letter whose C holds the E"
+                + " (none: 0; beyond its bounds the bound):", () -> {
             CliffGarden g = Gardens.column(2, 1, 77);
             g.plant(2, 0, 3, 60);
             Gardens.lay(g, "f3(1=1);g9(k=2);g5(k=3);g7(1=1)");
@@ -511,8 +512,8 @@ final class LawSentences {
     /** Every sign at every place of right TEXTS, in place of the one there, and ahead of it; and every beginning. */
     private static void everySign() {
         String[] texts = {"g1(1=1)", "gk+[y-3]*2/x%7(l<s&n>j|!w=r)", "f00001(!(1=1|2<3)&4>5);a12345(1=[1]);c1(0=0)",
-            "o[[[[[[d]]]]]]+t(((((!1=1)))))", "q1(!!!!!1=1|[[[[[m]]]]]=b&!(!(!1=1)))", clauses(14), "gk(1=1);" + clauses(13),
-            "q12345*[99999%54321](1>2|(3<4&(5=6|7=8&!9>0)))"};
+            "o[[[[[[d]]]]]]+t(((((!1=1)))))", "q1(!!!!!1=1|[[[[[m]]]]]=b&!(!(!1=1)))", clauses(14),
+            "gk(1=1);" + clauses(13), "q12345*[99999%54321](1>2|(3<4&(5=6|7=8&!9>0)))"};
         Book.terms("FAULTS, the first from the left:", () -> {
             List<String> tried = new ArrayList<>();
             for (String text : texts) {

@@ -28,8 +28,8 @@ final class PlanSentences {
     }
 
     private static void bearing() {
-        Book.terms("PLANTED: of told CELLS (5 at most, that HANG without CROP) each gets a KIND or none (-1) so that, all"
-                + " CROPS there being as heavy as RIPE (or as they are, if heavier), each KNOT BEARS,", () -> {
+        Book.terms("PLANTED: of told CELLS (5 at most, that HANG without CROP) each gets a KIND or none (-1) so that,"
+                + " all CROPS there being as heavy as RIPE (or as they are, if heavier), each KNOT BEARS,", () -> {
             for (int knot = 0; knot <= 70; knot++) {
                 CliffGarden g = kinds();
                 g.hang(2, 0, 0, knot, 0, 0);
@@ -56,6 +56,7 @@ final class PlanSentences {
             Book.due("the knot above, too", g.planted(Gardens.bit(2, 1), 0), -1);
             caughtAndKept();
             everyKnot();
+            newOnesTogether();
         });
     }
 
@@ -86,6 +87,29 @@ final class PlanSentences {
         Book.due("another column's would not, ripe", g.planted(Gardens.bit(2, 0), -1), -2);
         g.knot(6, 0, 10);
         Book.due("it would", g.planted(Gardens.bit(2, 0), -1), 300);
+        g = kinds();
+        Gardens.hangColumn(g, 2, 6, 9);
+        Gardens.hangColumn(g, 3, 1, 60);
+        g.plant(3, 0, 5, 0);
+        Book.due("the next column's first is not below the lowest", g.planted(Gardens.bit(2, 5), -1), 0);
+    }
+
+    private static void newOnesTogether() {
+        for (int n = 0; n < 16; n++) {
+            int column = n / 2;
+            int upper = n % 2;
+            CliffGarden g = kinds();
+            Gardens.hangColumn(g, column, 4, 9999);
+            g.knot(column, upper, 100);
+            long two = Gardens.bit(column, 1) | Gardens.bit(column, 2);
+            Book.due("together below one knot", g.planted(two, -1), 300 + 120);
+            Book.due("40 and 60", g.planted(two, 0), 3);
+            Book.due("40 and 60", g.planted(two, 1), 5);
+            long three = two | Gardens.bit(column, 3);
+            Book.due("three together", g.planted(three, -1), 300 + 120);
+            g.knot(column, upper, 150);
+            Book.due("three together", g.planted(three, -1), 300 + 300 + 60);
+        }
     }
 
     private static void holes() {
@@ -128,6 +152,7 @@ final class PlanSentences {
                 g.kind(k, 0, 200, 99);
             }
             Book.due("five of the dearest", g.planted(31L << 12, -1), 5 * 19800);
+            Book.due("the fifth of them", g.planted(31L << 12, 4), 0);
             for (int k = 0; k < 6; k++) {
                 g.kind(k, 0, 200, 0);
             }
@@ -211,11 +236,20 @@ final class PlanSentences {
             Book.due("five", g.planted(62, -1), 250);
         });
         Book.promise(28, "one does not HANG,", () -> {
+            for (int n = 0; n < 48; n++) {
+                Book.due("cell " + n, new CliffGarden().planted(1L << n, -1), -3);
+            }
             Gardens.refused("one", g -> g.planted(Gardens.bit(1, 0), -1), -3);
             Gardens.refused("the last", g -> g.planted(Gardens.bit(2, 5) | Gardens.bit(7, 5), 10), -3);
             Gardens.refused("the first", g -> g.planted(Gardens.bit(0, 1) | Gardens.bit(2, 5), 0), -3);
         });
         Book.promise(28, "has a CROP,", () -> {
+            for (int n = 0; n < 48; n++) {
+                CliffGarden full = Gardens.column(n / 6, 6, 9999);
+                Book.due("empty cell " + n, full.planted(1L << n, 0), 0);
+                full.plant(n / 6, n % 6, 3, 0);
+                Book.due("full cell " + n, full.planted(1L << n, 0), -3);
+            }
             Gardens.refused("one", g -> g.planted(Gardens.bit(2, 0), -1), -3);
             Gardens.refused("the last", g -> g.planted(Gardens.bit(2, 5) | Gardens.bit(3, 1), 10), -3);
             Gardens.refused("the first", g -> g.planted(Gardens.bit(2, 0) | Gardens.bit(2, 5), 0), -3);
@@ -287,6 +321,8 @@ final class PlanSentences {
             g.plant(4, 1, 0, 0);
             Gardens.lay(g, "gw(1=1)");
             Book.due("by its ways", g.drought(9, 0b1000, -1), 6);
+            meetingDrops();
+            everyCellGrows();
             Book.due("six serve both", g.drought(9, 0b1000, 0), 6);
             Book.due("the odd one to the left", g.drought(5, 0b1000, 0), 5);
             Book.due("no crop", new CliffGarden().drought(9, 1, -1), 0);
@@ -304,6 +340,37 @@ final class PlanSentences {
             }
             Book.due("nothing serves", dry("g5(1=1)").drought(36, 0b11110, 3), 0);
         });
+    }
+
+    /** Drops of three VALVES come to one CELL that NEEDS 20. */
+    private static void meetingDrops() {
+        CliffGarden g = new CliffGarden();
+        for (int c = 2; c <= 4; c++) {
+            g.hang(c, 0, 0, 99, 0, new int[] {2, 0, 1}[c - 2]);
+        }
+        g.hang(3, 1, 0, 99, 0, 0);
+        g.kind(0, 20, 50, 1);
+        g.plant(3, 1, 0, 0);
+        Gardens.lay(g, "gw(1=1)");
+        Book.due("all its need", g.drought(36, 0b11100, -1), 20);
+        int[] least = {2, 9, 9};
+        for (int i = 0; i < 3; i++) {
+            Book.due("place " + i, g.drought(36, 0b11100, i), least[i]);
+        }
+        g.kind(0, 19, 50, 1);
+        Book.due("one less", g.drought(36, 0b11100, -1), 19);
+    }
+
+    private static void everyCellGrows() {
+        for (int n = 0; n < 48; n++) {
+            CliffGarden g = Gardens.column(n / 6, 6, 99);
+            g.kind(0, 20, 50, 1);
+            g.plant(n / 6, n % 6, 0, 0);
+            Gardens.lay(g, "gw+1(1=1)");
+            Book.due("cell " + n + " grows", g.drought(7, 1 << n / 6, -1), 8);
+            Book.due("by its valve", g.drought(7, 1 << n / 6, 0), 7);
+            Book.due("not by another", g.drought(7, 1 << (n / 6 + 1) % 8, -1), 1);
+        }
     }
 
     private static void promiseOfDrought() {
@@ -373,7 +440,7 @@ final class PlanSentences {
         });
     }
 
-    /** The first mended of LEVEL 5 of COLUMN 0, an hour of which is dear, and LEVEL 0 of COLUMN 1, that costs nothing. */
+    /** The first one mended: LEVEL 5 of COLUMN 0, an hour of which is dear, or LEVEL 0 of COLUMN 1, that is free. */
     private static int dearLowest() {
         CliffGarden g = new CliffGarden();
         g.rope(0, 0, 99);
@@ -448,8 +515,9 @@ final class PlanSentences {
     }
 
     private static void hail() {
-        Book.terms("ROOFS under HAIL: of each CELL of a COLUMN that HANGS with a CROP of some KINDS (as bits) a bean"
-                + " (WEIGHT 1) falls: how many KITCHENS have some bean whose LEVELS fallen are above their ROOF.", () -> {
+        Book.terms("ROOFS under HAIL: of each CELL of a COLUMN that HANGS with a CROP of some KINDS (as bits)"
+                + " a bean (WEIGHT 1) falls: how many KITCHENS have some bean"
+                + " whose LEVELS fallen are above their ROOF.", () -> {
             for (int l = 0; l < 6; l++) {
                 CliffGarden g = Gardens.column(3, 6, 9999);
                 g.plant(3, l, 4, 200);
@@ -517,11 +585,12 @@ final class PlanSentences {
 
     private static void check() {
         int[] right = {7, -1, 0, 200, -1, -1};
-        Book.terms("CHECK of a COLUMN: WEIGHTS of its CELLS by LEVELS (-1: it does not HANG or has no CROP): right, or the"
-                + " first number that is not so.", () -> {
+        Book.terms("CHECK of a COLUMN: WEIGHTS of its CELLS by LEVELS (-1: it does not HANG or has no CROP):"
+                + " right, or the first number that is not so.", () -> {
             Book.due("right", fed(right).check(5, 6), -1);
             for (int i = 0; i < 6; i++) {
-                for (int other : new int[] {-1, 0, 7, 199, 200, 201, right[i] ^ 1 << 24, right[i] ^ 1 << 8, ~right[i]}) {
+                int due = right[i];
+                for (int other : new int[] {-1, 0, 7, 199, 200, 201, due ^ 1 << 24, due ^ 1 << 8, ~due}) {
                     int[] numbers = right.clone();
                     numbers[i] = other;
                     Book.due(other + " at " + i, fed(numbers).check(5, 6), other == right[i] ? -1 : i);
@@ -552,6 +621,7 @@ final class PlanSentences {
             Book.due("none on an empty tape", new CliffGarden().check(0, 0), 0);
             Book.due("a wrong one ahead of those that lack", fed(7, 5).check(5, 2), 1);
             Book.due("a wrong one behind n", fed(7, 5).check(5, 1), 1);
+            Book.due("a wrong one far behind n", fed(7, -1, 0, 5).check(5, 1), 1);
             for (int n = 7; n <= 10; n++) {
                 Book.due("a seventh number is not so", fed(right).check(5, n), 6);
             }

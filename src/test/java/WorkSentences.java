@@ -91,6 +91,11 @@ final class WorkSentences {
             Book.due("the least first", g.work(9, 3, both, 0), 12);
             Book.due("then the other", g.work(9, 3, both, 1), 24);
             Book.due("no way back is counted", g.work(9, 0, Gardens.bit(7, 0), -1), 15);
+            long up = Gardens.bit(0, 5) | Gardens.bit(2, 5) | Gardens.bit(3, 1) | Gardens.bit(3, 2);
+            g.mended(up, -1);
+            Book.due("whatever would be mended first", g.work(9, 0, up, -1), 19);
+            Book.due("the lower one", g.work(9, 0, up, 2), 20);
+            Book.due("then the upper one", g.work(9, 0, up, 3), 19);
             long square = Gardens.bit(0, 0) | Gardens.bit(0, 2) | Gardens.bit(1, 0) | Gardens.bit(1, 2);
             Book.due("a square", g.work(9, 0, square, -1), 2 + 2 + 2 + 4);
             int[] row = {0, 2, 8, 6};
@@ -210,8 +215,9 @@ final class WorkSentences {
             Book.due("0 times", g.pollen(0, 1, 5, 0, 0), -1);
             Book.due("13 times", g.pollen(0, 1, 5, 13, 0), -1);
         });
-        Book.terms("POLLEN: in how many of all ways it comes to a told COLUMN (where it begins counts), having been (then,"
-                + " or before) in a COLUMN where some CELL that HANGS has a CROP of a told KIND: a fraction.", () -> {
+        Book.terms("POLLEN: in how many of all ways it comes to a told COLUMN (where it begins counts), having been"
+                + " (then, or before) in a COLUMN where some CELL that HANGS has a CROP"
+                + " of a told KIND: a fraction.", () -> {
             fly(1 << 3, 3, 3, 1);
             fly(1 << 3, 2, 3, 1);
             fly(1 << 3, 3, 4, 1);
@@ -227,6 +233,11 @@ final class WorkSentences {
             Book.due("another kind", g.pollen(3, 3, 4, 1, 0), 0);
             g.knot(3, 1, 0);
             g.go();
+            for (int n = 0; n < 48; n++) {
+                CliffGarden one = Gardens.column(n / 6, 6, 9);
+                one.plant(n / 6, n % 6, 5, 0);
+                Book.due("the crop of cell " + n, one.pollen(n / 6, n / 6, 5, 1, 0), 1);
+            }
             Book.due("it hangs no more", g.pollen(3, 3, 5, 1, 0), 0);
             Book.due("none of one", g.pollen(3, 3, 5, 1, 1), 1);
         });
