@@ -241,7 +241,7 @@ final class LawSentences {
         });
         Book.terms("E: TERMS with + or - between two; a TERM: FACTORS with one of * / % between two;"
                 + " from the left on;", () -> {
-            Object[][] es = {{"20-3-4", 13}, {"20-3+4", 21}, {"40/4/5", 2}, {"40/4*5", 50}, {"7*9%10", 3},
+            Object[][] es = {{"7/1", 7}, {"7%1", 0}, {"7*1", 7}, {"0/7", 0}, {"6/7", 0}, {"7/7", 1}, {"20-3-4", 13}, {"20-3+4", 21}, {"40/4/5", 2}, {"40/4*5", 50}, {"7*9%10", 3},
                 {"17%10*3", 21}, {"30%8/2", 3}, {"1+2*3", 7}, {"2*3+1", 7}, {"20-2*3-4", 10}, {"9-8/4", 7},
                 {"9-8%5", 6}, {"2*3+4*5", 26}, {"5/2*2", 4}, {"[20-3]-4", 13}, {"20-[3-4]", 21}};
             for (Object[] e : es) {
@@ -592,6 +592,7 @@ final class LawSentences {
             }
             Book.due("200 of 220", g.law(200), -1000);
             Book.due("empty then", g.count(4), 0);
+            oneLawBehindAnother();
         });
         Book.promise(11, "a FAULT: -1000 times its number, less its place (the TEXT before stays);", () -> {
             String[] faulty = {"z", "g", "g123456", clauses(14) + ";g", "g[[[[[[["};
@@ -631,6 +632,33 @@ final class LawSentences {
             Gardens.feedText(g, "g1+1+1+1+1+1+1+(1=1)");
             Book.due("just as many", g.law(20), -1015);
         });
+    }
+
+    /** Nothing of any LAW before may be seen, nor may long ones use the room up. */
+    private static void oneLawBehindAnother() {
+        CliffGarden g = Gardens.column(0, 1, 9);
+        g.plant(0, 0, 0, 0);
+        for (int i = 0; i < 4; i++) {
+            Book.due("fourteen", Gardens.lay(g, clauses(14)), 14);
+            Book.due("g", g.byLaw(0, 0, 0), 1);
+        }
+        for (int i = 0; i < 4; i++) {
+            Book.due("one of f", Gardens.lay(g, "f" + i + "(1=1)"), 1);
+            Book.due("no g any more", g.byLaw(0, 0, 0), 0);
+            Book.due("no a any more", g.byLaw(0, 0, 2), 0);
+            Book.due("f", g.byLaw(0, 0, 1), i);
+        }
+        for (int i = 0; i < 8; i++) {
+            Book.due("one or two", Gardens.lay(g, i < 4 ? "f1(1=1);g7(1=1)" : "f2(1=1)"), i < 4 ? 2 : 1);
+            Book.due("the second one", g.byLaw(0, 0, 0), i < 4 ? 7 : 0);
+        }
+        for (int i = 0; i < 6; i++) {
+            Book.due("a long one", Gardens.lay(g, longText(200 - i)), 1);
+            Book.due("g of a long one", g.byLaw(0, 0, 0), 50);
+            Book.due("a long one with a fault", Gardens.lay(g, longText(199 - i) + ";"), i - 1200);
+            Book.due("a short one", Gardens.lay(g, "g" + i + "(1=1)"), 1);
+            Book.due("g of a short one", g.byLaw(0, 0, 0), i);
+        }
     }
 
     private static void byLaw() {

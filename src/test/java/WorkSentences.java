@@ -307,6 +307,17 @@ final class WorkSentences {
             g.plant(7, 0, 0, 1);
             Book.due("one was not", g.pollinate(7, 0), 1);
             Book.due("no such crop", g.pollinate(7, 5), 0);
+            Book.due("six in the column to the left", g.pollinate(6, 0), 6);
+            g.fall(7, 0);
+            g.plant(7, 0, 0, 1);
+            g.fall(6, 5);
+            g.plant(6, 5, 0, 1);
+            Book.due("the lowest of that one is not", g.pollinate(7, 0), 1);
+            Book.due("was not", g.cell(6, 5, 9), 0);
+            g.fall(7, 0);
+            g.plant(7, 0, 0, 1);
+            Book.due("the first of the next one is not", g.pollinate(6, 0), 1);
+            Book.due("was not", g.cell(7, 0, 9), 0);
             Gardens.refused("nothing hangs there", x -> x.pollinate(5, 0), 0);
         });
         Book.promise(27, "NONE: no such ones.", () -> {
